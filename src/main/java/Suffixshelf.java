@@ -21,6 +21,7 @@ public final class Suffixshelf {
     private final Turner turner = new Turner();
     private final SharedWord sharedWord = new SharedWord();
     private final WordTree tree = new WordTree();
+    private final PartCutter partCutter = new PartCutter();
     private final Packer packer = new Packer();
     private int made;
 
@@ -414,36 +415,36 @@ public final class Suffixshelf {
 
     /** Returns how many parts a text has. */
     public int parts(int text) throws IndexOutOfBoundsException {
-        return Shapes.allParts(known(text));
+        return partCutter.allCuts(known(text));
     }
 
     /** Returns where a part begins. */
     public int partAt(int text, int index) throws IndexOutOfBoundsException {
         Text asked = known(text);
-        if (index < 0 || index >= Shapes.allParts(asked)) {
+        if (index < 0 || index >= partCutter.allCuts(asked)) {
             throw new IndexOutOfBoundsException("no such part");
         }
-        return Shapes.partStart(asked, index);
+        return partCutter.startOf(asked, index);
     }
 
     // Packing, figures
 
     /** Returns how many pieces a text has. */
     public int pieces(int text) throws IndexOutOfBoundsException {
-        return packer.allPieces(known(text));
+        return packer.allCuts(known(text));
     }
 
     /** Returns the length of a piece. */
     public int pieceLength(int text, int index) throws IndexOutOfBoundsException {
         Text asked = knownWithPiece(text, index);
-        return packer.sizeOfPiece(asked, packer.pieceStart(asked, index));
+        return packer.sizeFrom(asked, packer.startOf(asked, index));
     }
 
     /** Returns the first place ahead at which the word of a piece stands. */
     public int pieceFrom(int text, int index) throws IndexOutOfBoundsException, NoSuchElementException {
         Text asked = knownWithPiece(text, index);
-        int start = packer.pieceStart(asked, index);
-        int source = asked.firstAhead(start, packer.sizeOfPiece(asked, start));
+        int start = packer.startOf(asked, index);
+        int source = asked.firstAhead(start, packer.sizeFrom(asked, start));
         if (source == start) {
             throw new NoSuchElementException("the piece stands at no place ahead");
         }
@@ -499,8 +500,8 @@ public final class Suffixshelf {
             Text checked = shelf[text];
             boolean sound = turner.comesBack(checked)
                     && tree.agreesWith(checked)
-                    && Shapes.partsAgree(checked)
-                    && packer.allPieces(checked) == packer.fewestWords(checked);
+                    && partCutter.agreesWith(checked)
+                    && packer.allCuts(checked) == packer.fewestWords(checked);
             if (!sound) {
                 return false;
             }
@@ -544,7 +545,7 @@ public final class Suffixshelf {
 
     private Text knownWithPiece(int text, int index) {
         Text found = known(text);
-        if (index < 0 || index >= packer.allPieces(found)) {
+        if (index < 0 || index >= packer.allCuts(found)) {
             throw new IndexOutOfBoundsException("no such piece");
         }
         return found;
@@ -722,25 +723,20 @@ public final class Suffixshelf {
         }
 
         int endsBelow(TypedRow word, int from) {
-            int low = 0;
-            int high = size;
-            while (low < high) {
-                int middle = (low + high) / 2;
-                if (againstWord(places[middle], word, from) < 0) {
-                    low = middle + 1;
-                } else {
-                    high = middle;
-                }
-            }
-            return low;
+            return endsUnder(word, from, 0);
         }
 
         int endsUpTo(TypedRow word, int from) {
+            return endsUnder(word, from, 1);
+        }
+
+        /** Looks by halves: ends that compare less with the word are ranked lower. */
+        private int endsUnder(TypedRow word, int from, int bound) {
             int low = 0;
             int high = size;
             while (low < high) {
                 int middle = (low + high) / 2;
-                if (againstWord(places[middle], word, from) <= 0) {
+                if (againstWord(places[middle], word, from) < bound) {
                     low = middle + 1;
                 } else {
                     high = middle;
@@ -1178,7 +1174,7 @@ public final class Suffixshelf {
         }
     }
 
-    /** Squares, periods, turns and parts of a text. */
+    /** Squares, periods and turns of a text. */
     private static final class Shapes {
         static int allSquares(Text text) {
             int seen = 0;
@@ -1236,25 +1232,46 @@ public final class Suffixshelf {
         private static char roundSign(Text text, int place) {
             return text.signs[place < text.size ? place : place - text.size];
         }
+    }
 
-        static int allParts(Text text) {
+    /** Cuts a text from its first sign on; each cut tells where the next one begins. */
+    private abstract static class Cutter {
+        /** Above 0 at each place of the text. */
+        abstract int sizeFrom(Text text, int start);
+
+        int allCuts(Text text) {
             int seen = 0;
-            for (int start = 0; start < text.size; start += sizeOfPart(text, start)) {
-                seen++;
+            int next = 0;
+            for (int place = 0; place < text.size; place++) {
+                if (place == next) {
+                    seen++;
+                    next += sizeFrom(text, place);
+                }
             }
             return seen;
         }
 
-        static int partStart(Text text, int index) {
-            int start = 0;
-            for (int passed = 0; passed < index && start < text.size; passed++) {
-                start += sizeOfPart(text, start);
+        /** The place behind the last one, if there are not so many. */
+        int startOf(Text text, int index) {
+            int passed = 0;
+            int next = 0;
+            for (int place = 0; place < text.size; place++) {
+                if (place == next) {
+                    if (passed == index) {
+                        return place;
+                    }
+                    passed++;
+                    next += sizeFrom(text, place);
+                }
             }
-            return start;
+            return text.size;
         }
+    }
 
+    /** Cuts a text into its parts. */
+    private static final class PartCutter extends Cutter {
         /** The longest plain word from there on; always one sign at least. */
-        private static int sizeOfPart(Text text, int start) {
+        int sizeFrom(Text text, int start) {
             int compared = start;
             int place = start + 1;
             while (place < text.size && text.signs[compared] <= text.signs[place]) {
@@ -1265,7 +1282,7 @@ public final class Suffixshelf {
             return place - compared;
         }
 
-        static boolean partsAgree(Text text) {
+        boolean agreesWith(Text text) {
             int next = 0;
             int leastRank = text.size;
             for (int place = 0; place < text.size; place++) {
@@ -1275,7 +1292,7 @@ public final class Suffixshelf {
                 }
                 if (isLeast) {
                     leastRank = text.ranks[place];
-                    next += sizeOfPart(text, place);
+                    next += sizeFrom(text, place);
                 }
             }
             return true;
@@ -1283,28 +1300,12 @@ public final class Suffixshelf {
     }
 
     /** Packs a text by what was told already. */
-    private static final class Packer {
+    private static final class Packer extends Cutter {
         /** By place: the fewest words that make the text from there on. */
         private final int[] fewestFrom = new int[MOST_SIGNS + 1];
 
-        int allPieces(Text text) {
-            int seen = 0;
-            for (int start = 0; start < text.size; start += sizeOfPiece(text, start)) {
-                seen++;
-            }
-            return seen;
-        }
-
-        int pieceStart(Text text, int index) {
-            int start = 0;
-            for (int passed = 0; passed < index && start < text.size; passed++) {
-                start += sizeOfPiece(text, start);
-            }
-            return start;
-        }
-
         /** Always one sign at least. */
-        int sizeOfPiece(Text text, int start) {
+        int sizeFrom(Text text, int start) {
             int longest = 1;
             if (start < text.size) {
                 longest = Math.max(longest, commonWithLowerAhead(text, start));
@@ -1340,7 +1341,7 @@ public final class Suffixshelf {
         int fewestWords(Text text) {
             fewestFrom[text.size] = 0;
             for (int place = text.size - 1; place >= 0; place--) {
-                int longest = sizeOfPiece(text, place);
+                int longest = sizeFrom(text, place);
                 int least = fewestFrom[place + 1];
                 for (int length = 2; length <= longest; length++) {
                     least = Math.min(least, fewestFrom[place + length]);

@@ -217,8 +217,8 @@ final class Model {
             case "classes":
                 return beginnings(text, classSize(number(words, 2))).size();
             case "rounds":
-                int rounds = 0;
-                for (int s = 1; rounds == 0 ? !text.isEmpty() : beginnings(text, s / 2).size() < text.length(); s *= 2) {
+                int rounds = text.isEmpty() ? 0 : 1;
+                for (int s = 1; beginnings(text, s).size() < text.length(); s *= 2) {
                     rounds++;
                 }
                 return rounds;
