@@ -579,14 +579,12 @@ public final class Suffixshelf {
         return low;
     }
 
-    /** It counts among the texts only once it is kept, so a call may still fail before. */
+    /** The next empty one; it counts among the texts only once it is kept. */
     private Text freshText() {
         if (made >= MOST_TEXTS) {
             throw new IllegalStateException("there are 8 texts");
         }
-        Text fresh = shelf[made];
-        fresh.size = 0;
-        return fresh;
+        return shelf[made];
     }
 
     private int keep(Text fresh) {
@@ -1050,7 +1048,7 @@ public final class Suffixshelf {
 
     /** Looks for the longest word that stands in some texts. */
     private static final class SharedWord {
-        /** By text and place of the text looked at: how many signs from there on stand in it. */
+        /** By text, and by place of the text looked at: what the end has in common with the next one above. */
         private final int[][] reach = new int[MOST_TEXTS][MOST_SIGNS];
         int bestPlace;
         int bestLength;
@@ -1065,7 +1063,7 @@ public final class Suffixshelf {
                 for (int other = 0; other < size; other++) {
                     tellReach(text, texts[other], reach[other]);
                 }
-                for (int place = 0; place < text.size; place++) {
+                for (int place = 0; place < text.size && place + bestLength <= text.size; place++) {
                     int reached = reachedInMany(place, size, many);
                     if (reached > 0 && (best < 0 || isBetter(text, place, reached, texts[best]))) {
                         best = i;
@@ -1077,18 +1075,28 @@ public final class Suffixshelf {
             return best;
         }
 
-        /** An end has most in common with the ends that are next to it in the order of the other text. */
+        /**
+         * Of all ends that begin with a word, the least one has ends that do so next above it in each other text,
+         * so that looking upwards is enough. Signs that are known to be alike from the end below are not compared.
+         */
         private void tellReach(Text text, Text other, int[] reached) {
-            int below = 0;
+            int upper = 0;
+            int like = 0;
             for (int rank = 0; rank < text.size; rank++) {
                 int place = text.places[rank];
-                while (below < other.size && other.isEndLess(other.places[below], text, place)) {
-                    below++;
+                like = Math.min(like, text.commons[rank]);
+                like += moreLike(text, place, other, upper, like);
+                while (upper < other.size && other.isEndLess(other.places[upper] + like, text, place + like)) {
+                    upper++;
+                    like = upper < other.size ? Math.min(like, other.commons[upper]) : 0;
+                    like += moreLike(text, place, other, upper, like);
                 }
-                int lower = below > 0 ? text.likeSigns(place, other, other.places[below - 1]) : 0;
-                int upper = below < other.size ? text.likeSigns(place, other, other.places[below]) : 0;
-                reached[place] = Math.max(lower, upper);
+                reached[place] = like;
             }
+        }
+
+        private int moreLike(Text text, int place, Text other, int upper, int like) {
+            return upper < other.size ? text.likeSigns(place + like, other, other.places[upper] + like) : 0;
         }
 
         private int reachedInMany(int place, int size, int many) {

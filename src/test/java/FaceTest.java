@@ -14,7 +14,7 @@ import java.util.regex.Matcher;
 import java.util.regex.Pattern;
 import java.util.stream.Collectors;
 
-/** The class has the document's face and no other, and keeps to those rules of the language that a text search can tell. */
+/** The class has the document's face and no other, and keeps to rules of the language that a text search can tell. */
 public final class FaceTest {
     private static final Path DOCUMENT = Path.of("../shared/DOC.md");
     private static final Path SOURCE = Path.of("src/main/java/Suffixshelf.java");
@@ -108,8 +108,8 @@ public final class FaceTest {
         String code = source.replaceAll("(?s)/\\*.*?\\*/", "").replaceAll("//.*", "");
         Pattern refused = Pattern.compile("\\b(finally|assert|synchronized|package|protected|volatile)\\b|::"
                 + "|import (?!java\\.util\\.(NoSuchElementException|ArrayList|List|Arrays|Iterator);).*|Exact\\("
-                + "|throw (?!new (IllegalState|IllegalArgument|IndexOutOfBounds|Arithmetic|UnsupportedOperation|NoSuchElement"
-                + "|Runtime)Exception\\((\"[^\"]*\")?\\);).*");
+                + "|throw (?!new (IllegalState|IllegalArgument|IndexOutOfBounds|Arithmetic|UnsupportedOperation"
+                + "|NoSuchElement|Runtime)Exception\\((\"[^\"]*\")?\\);).*");
         List<String> found = new ArrayList<>();
         Matcher matcher = refused.matcher(code);
         while (matcher.find()) {

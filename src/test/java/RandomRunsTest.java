@@ -29,9 +29,11 @@ public final class RandomRunsTest {
         this.alphabet = ALPHABETS[run % ALPHABETS.length];
     }
 
+    /** Takes another number of runs as an argument. */
     public static void main(String[] args) {
+        int runs = args.length > 0 ? Integer.parseInt(args[0]) : RUNS;
         Script script = new Script("RandomRunsTest");
-        for (int run = 0; run < RUNS && script.wrong() == 0; run++) {
+        for (int run = 0; run < runs && script.wrong() == 0; run++) {
             new RandomRunsTest(run, script).run(run);
         }
         script.end();
@@ -105,7 +107,7 @@ public final class RandomRunsTest {
             case "type":
                 return "type " + sign();
             case "typeMore":
-                StringBuilder call = new StringBuilder("typeMore " + (chosen.nextInt(8) == 0 ? edge() : 1 + chosen.nextInt(8)));
+                StringBuilder call = new StringBuilder("typeMore " + edgeOrUpTo(8));
                 for (int i = 0; i < 8; i++) {
                     call.append(' ').append(chosen.nextInt(4) == 0 ? sign() : letter());
                 }
@@ -119,12 +121,12 @@ public final class RandomRunsTest {
             case "ahead":
                 return "ahead " + text + " " + sign();
             case "classOf":
-                return "classOf " + text + " " + place(text) + " " + (chosen.nextInt(6) == 0 ? edge() : 1 + chosen.nextInt(9));
+                return "classOf " + text + " " + place(text) + " " + edgeOrUpTo(9);
             case "shared":
                 int second = textNumber();
                 return "shared " + text + " " + place(text) + " " + second + " " + place(second);
             case "longestIn":
-                return "longestIn " + (chosen.nextInt(8) == 0 ? edge() : 1 + chosen.nextInt(model.texts().size() + 1));
+                return "longestIn " + edgeOrUpTo(model.texts().size() + 1);
             default:
                 return name;
         }
@@ -132,6 +134,10 @@ public final class RandomRunsTest {
 
     private int edge() {
         return EDGES[chosen.nextInt(EDGES.length)];
+    }
+
+    private int edgeOrUpTo(int most) {
+        return chosen.nextInt(8) == 0 ? edge() : 1 + chosen.nextInt(most);
     }
 
     private int textNumber() {

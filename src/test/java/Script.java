@@ -11,7 +11,7 @@ import java.util.Arrays;
  * and "holds N = WORD" (what a text holds). What stands behind a '#' is not read.
  */
 final class Script {
-    private static final long LONGEST_RUN_MS = 600_000;
+    private static final long LONGEST_RUN_MS = 300_000;
     private static final Method[] FACE = Suffixshelf.class.getDeclaredMethods();
 
     private final String name;

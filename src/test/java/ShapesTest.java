@@ -51,7 +51,8 @@ public final class ShapesTest {
                 squareAt -1 0 = IndexOutOfBoundsException
                 """);
         script.run("new\n put " + ALIKE_64 + " = 0\n squares 0 = 1024");
-        script.run("put " + "abcdefghijklmnopqrstuvwxyzabcdef".repeat(2) + " = 1\n squares 1 = 2\n squareAt 1 0 = 32\n squareAt 1 26 = 6");
+        script.run("put " + "abcdefghijklmnopqrstuvwxyzabcdef".repeat(2) + " = 1");
+        script.run("squares 1 = 2\n squareAt 1 0 = 32\n squareAt 1 26 = 6");
     }
 
     private static void period(Script script) {
