@@ -22,6 +22,15 @@ final class Model {
         return typed;
     }
 
+    /** What the typed row and the texts hold, written as Script writes it. */
+    String state() {
+        StringBuilder state = new StringBuilder(typed);
+        for (String text : texts) {
+            state.append('/').append(text);
+        }
+        return state.toString();
+    }
+
     /** The answer of a call, or the simple name of the exception. */
     String answer(String call) {
         String[] words = call.split(" +");

@@ -2,7 +2,10 @@ import java.util.ArrayList;
 import java.util.List;
 import java.util.Random;
 
-/** Runs of 512 chosen calls on new objects, good and wrong ones, each compared with the model's answer. */
+/**
+ * Runs of 512 chosen calls on new objects, as many as the document promises answers for, good and wrong ones. The
+ * answer of each, and what the object holds behind it, is compared with the model's.
+ */
 public final class RandomRunsTest {
     private static final int RUNS = 150;
     private static final int CALLS = 512;
@@ -47,7 +50,9 @@ public final class RandomRunsTest {
                 plan();
             }
             String next = planned.remove(0);
-            script.expect("run " + run + ", call " + call + ": " + next, model.answer(next), script.answer(next));
+            String which = "run " + run + ", call " + call + ": " + next;
+            script.expect(which, model.answer(next), script.answer(next));
+            script.expect("the state behind " + which, model.state(), script.state());
         }
     }
 
