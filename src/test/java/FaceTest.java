@@ -26,6 +26,8 @@ public final class FaceTest {
         script.expect("what else is seen", "[]", seen().toString());
         script.expect("private methods named as public ones", "[]", namedTwice().toString());
         script.expect("words that the rules leave out", "[]", leftOut(source).toString());
+        script.expect("what is more than the rules leave", "[]", tooMany().toString());
+        script.expect("methods of more than sixty lines", "[]", longMethods(source).toString());
         script.expect("signs above 126", "0", String.valueOf(source.chars().filter(sign -> sign > 126).count()));
         script.end();
     }
@@ -92,9 +94,7 @@ public final class FaceTest {
             open.add(method.getName());
         }
         List<String> found = new ArrayList<>();
-        List<Class<?>> classes = new ArrayList<>(List.of(Suffixshelf.class.getDeclaredClasses()));
-        classes.add(Suffixshelf.class);
-        for (Class<?> inside : classes) {
+        for (Class<?> inside : classes()) {
             for (Method method : inside.getDeclaredMethods()) {
                 if (!Modifier.isPublic(method.getModifiers()) && open.contains(method.getName())) {
                     found.add(method.getName());
@@ -104,9 +104,61 @@ public final class FaceTest {
         return found;
     }
 
+    private static List<Class<?>> classes() {
+        List<Class<?>> classes = new ArrayList<>(List.of(Suffixshelf.class.getDeclaredClasses()));
+        classes.add(Suffixshelf.class);
+        return classes;
+    }
+
+    /** Rules 5 and 11: classes, fields, parameters, and static fields that are not final. */
+    private static List<String> tooMany() {
+        List<String> found = new ArrayList<>();
+        if (classes().size() > 12) {
+            found.add("classes");
+        }
+        for (Class<?> inside : classes()) {
+            int fields = 0;
+            for (Field field : inside.getDeclaredFields()) {
+                fields += Modifier.isStatic(field.getModifiers()) ? 0 : 1;
+                if (Modifier.isStatic(field.getModifiers()) && !Modifier.isFinal(field.getModifiers())) {
+                    found.add(field.getName());
+                }
+            }
+            if (fields > 20) {
+                found.add("fields of " + inside.getSimpleName());
+            }
+            for (Method method : inside.getDeclaredMethods()) {
+                if (method.getParameterCount() > 7 && !method.getName().equals("typeMore")) {
+                    found.add("parameters of " + method.getName());
+                }
+            }
+        }
+        return found;
+    }
+
+    /** A method ends where a bracket closes as far in as its first line stands. */
+    private static List<String> longMethods(String source) {
+        List<String> found = new ArrayList<>();
+        String[] lines = source.split("\n");
+        for (String margin : List.of("    ", "        ")) {
+            int first = 0;
+            for (int i = 0; i < lines.length; i++) {
+                boolean isClosed = lines[i].equals(margin + "}");
+                if (isClosed && i - first >= 60 && !lines[first].contains(" class ")) {
+                    found.add(lines[first].strip());
+                }
+                if (lines[i].startsWith(margin) && !lines[i].startsWith(margin + " ")) {
+                    first = i;
+                }
+            }
+        }
+        return found;
+    }
+
     private static List<String> leftOut(String source) {
         String code = source.replaceAll("(?s)/\\*.*?\\*/", "").replaceAll("//.*", "");
-        Pattern refused = Pattern.compile("\\b(finally|assert|synchronized|package|protected|volatile)\\b|::"
+        Pattern refused = Pattern.compile("\\b(finally|assert|synchronized|package|protected|volatile)\\b"
+                + "|\\b(getMessage|hashCode)\\b|::|->|\" *\\+|\\+ *\""
                 + "|import (?!java\\.util\\.(NoSuchElementException|ArrayList|List|Arrays|Iterator);).*|Exact\\("
                 + "|throw (?!new (IllegalState|IllegalArgument|IndexOutOfBounds|Arithmetic|UnsupportedOperation"
                 + "|NoSuchElement|Runtime)Exception\\((\"[^\"]*\")?\\);).*");
